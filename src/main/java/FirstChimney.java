@@ -756,22 +756,19 @@ public final class FirstChimney {
         /** In which cell of a list the WORD at hand is; NONE: in none. */
         int cellIn(String list) {
             for (int cell = 0; (cell + 1) * MAX_LETTERS <= list.length(); cell++) {
-                if (isCell(list, cell * MAX_LETTERS)) {
+                int same = 0;
+                for (int letter = 0; letter < MAX_LETTERS; letter++) {
+                    int at = start + letter;
+                    char sign = at < end && at < length ? signs[at] : ' ';
+                    if (list.charAt(cell * MAX_LETTERS + letter) == sign) {
+                        same++;
+                    }
+                }
+                if (same == MAX_LETTERS) {
                     return cell;
                 }
             }
             return NONE;
-        }
-
-        private boolean isCell(String list, int from) {
-            for (int letter = 0; letter < MAX_LETTERS; letter++) {
-                int at = start + letter;
-                char sign = at < end && at < length ? signs[at] : ' ';
-                if (list.charAt(from + letter) != sign) {
-                    return false;
-                }
-            }
-            return true;
         }
 
         boolean fail(int what) {
@@ -896,23 +893,21 @@ public final class FirstChimney {
             bindsTold = false;
             tape.open();
             for (int told = 0; told < MAX_SIGNS && tape.kind != END; told++) {
-                if (!readLine(tape, land) || !tape.take(';')) {
+                boolean fits = false;
+                switch (tape.kind) {
+                    case KEY_PLACE: fits = readPlace(tape, land); break;
+                    case KEY_PATH: fits = readPath(tape, land); break;
+                    case KEY_PERSON: fits = readPerson(tape, land); break;
+                    case KEY_THING: fits = readThing(tape, land); break;
+                    case KEY_SMOKE: fits = readSmoke(tape, land); break;
+                    case KEY_BINDS: fits = readBinds(tape, land); break;
+                    default: tape.fail(FAULT_TOKEN);
+                }
+                if (!fits || !tape.take(';')) {
                     return tape.fault;
                 }
             }
             return 0;
-        }
-
-        private boolean readLine(Tape tape, Land land) {
-            switch (tape.kind) {
-                case KEY_PLACE: return readPlace(tape, land);
-                case KEY_PATH: return readPath(tape, land);
-                case KEY_PERSON: return readPerson(tape, land);
-                case KEY_THING: return readThing(tape, land);
-                case KEY_SMOKE: return readSmoke(tape, land);
-                case KEY_BINDS: return readBinds(tape, land);
-                default: return tape.fail(FAULT_TOKEN);
-            }
         }
 
         private static boolean isNewName(Tape tape, Land land) {
@@ -1042,7 +1037,6 @@ public final class FirstChimney {
                 return tape.fail(FAULT_TWICE);
             }
             bindsTold = true;
-            tape.next();
             return lawReader.read(tape, land.law);
         }
     }
@@ -1116,12 +1110,13 @@ public final class FirstChimney {
         private int depth;
         private boolean partDue;
 
-        /** Reads up to the ; behind the E. */
+        /** Reads from the word ahead of the E up to the ; behind it. */
         boolean read(Tape tape, Law law) {
             top = 0;
             depth = 0;
             partDue = true;
             for (int tokens = 0; tokens < MAX_SIGNS; tokens++) {
+                tape.next();
                 if (!partDue && depth == 0 && tape.kind == ';') {
                     writeDown(law, RANK_JOIN);
                     return true;
@@ -1129,7 +1124,6 @@ public final class FirstChimney {
                 if (partDue ? !readPart(tape, law) : !readBehind(tape, law)) {
                     return false;
                 }
-                tape.next();
             }
             return tape.fail(FAULT_TOKEN);
         }
@@ -1155,10 +1149,8 @@ public final class FirstChimney {
         }
 
         private boolean readBehind(Tape tape, Law law) {
-            if (tape.kind == ')') {
-                return depth == 0 ? tape.fail(FAULT_TOKEN) : close(law);
-            }
-            int rank = rankOf(tape.kind);
+            boolean closes = tape.kind == ')' && depth > 0;
+            int rank = closes ? RANK_JOIN : rankOf(tape.kind);
             if (rank == 0) {
                 return tape.fail(FAULT_TOKEN);
             }
@@ -1167,18 +1159,14 @@ public final class FirstChimney {
             if (rank == RANK_TEST && top > 0 && rankOf(waiting[top - 1]) == RANK_TEST) {
                 return tape.fail(FAULT_TOKEN);
             }
+            if (closes) {
+                top = Math.max(0, top - 1);
+                depth--;
+                closeNots(law);
+                return true;
+            }
             await(tape.kind);
             partDue = true;
-            return true;
-        }
-
-        private boolean close(Law law) {
-            writeDown(law, RANK_JOIN);
-            if (top > 0) {
-                top--;
-            }
-            depth--;
-            closeNots(law);
             return true;
         }
 
