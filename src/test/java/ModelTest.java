@@ -1281,9 +1281,10 @@ public final class ModelTest {
         }
     }
 
-    private static void rests(FirstChimney x) {
+    private static void rests() {
         for (int both = -1; both <= 10; both++) {
             for (int loses = -1; loses <= 10; loses++) {
+                FirstChimney x = new FirstChimney();
                 for (int gains = -1; gains <= 10; gains++) {
                     List<Integer> want = new ArrayList<>();
                     int[][] first = {{0, gains}, {-loses, -both}};
@@ -1327,7 +1328,7 @@ public final class ModelTest {
     }
 
     public static void main(String[] args) {
-        rests(new FirstChimney());
+        rests();
         for (int run = 0; run < 1500; run++) {
             run();
         }

@@ -948,10 +948,10 @@ public final class PromisesTest {
 
     /** Looks for a seed whose first draws are a gift from one to another, and for one whose are a walk. */
     private static void drawnGift() {
-        FirstChimney x = of("place p;place q;path p q;person a plain in p wakes 0;person b plain in p wakes 0;thing t worth 1 of a;thing u worth 1 of b;");
         int gifts = 0;
         int walks = 0;
         for (int seed = 0; seed < 200; seed++) {
+            FirstChimney x = of("place p;place q;path p q;person a plain in p wakes 0;person b plain in p wakes 0;thing t worth 1 of a;thing u worth 1 of b;");
             long g = seed;
             int[] draws = new int[4];
             int[] below = {2, 2, 5, 2};
