@@ -437,6 +437,7 @@ public final class AskEdgesTest {
         due("a star", 0, star.hub());
         due("a star about the last", 6, Edges.told(SEVEN + "path g a;path g b;path g c;path g d;path g e;path g f;").hub());
         due("a ring", 0, Edges.told(ROW + "path g a;").hub());
+        due("one alone beside a pair", 2, Edges.told("place a;place b;place c;path a b;").hub());
         due("one alone, the last", 6, Edges.told(SEVEN + "path a b;path b c;path c d;path d e;path e f;").hub());
         Edges.leaves("hub", x -> x.hub());
         of(32, "LINKS; NONE: others.");
@@ -542,7 +543,7 @@ public final class AskEdgesTest {
         due("the first of equal PLACES", 4, Edges.told(SEVEN + "person h plain in g wakes 0;person i plain in e wakes 0;").ask());
         // At 0 a has h, j, k of five: three and two.
         due("most can", 0, Edges.told(five).ask());
-        // 31 is as late as it can be: both asleep till 30, one of them slow.
+        // 31 is as late as it can be of two: both asleep till 30, one of them slow.
         due("31", 8 * 31 + 1, Edges.told(PAIR + "person h plain in a wakes 30;person i slow in a wakes 30;").ask());
         due("30", 8 * 30 + 1, Edges.told(PAIR + "person h plain in a wakes 30;person i plain in a wakes 29;").ask());
         due("1", 8 + 1, Edges.told(PAIR + "person h plain in a wakes 0;person i slow in a wakes 0;").ask());
@@ -720,6 +721,19 @@ public final class AskEdgesTest {
         // SEED 56: 25441, 26477, 17029: deed 4, no DRAW; then 26576, 6386, 6738, 12887: PERSON 0 and 1 VOW.
         due("SEED 56", 1, Edges.told(two).mornings(56, 2, 0));
         due("SEED 56, a minute", 0, Edges.told(two).mornings(56, 1, 0));
+        // SEED 116: 19931, 1418, 24573, 12630: PERSON 1 and 0 VOW; 21183, 16886, 4823, 32166: the same once more.
+        due("SEED 116, vowed already", 1, Edges.told(two).mornings(116, 2, 0));
+        due("SEED 116, SMOKE between", 2, Edges.told(two + "smoke 1;").mornings(116, 2, 0));
+        due("SEED 116, SMOKE between, it BINDS", 1, Edges.told(two + "smoke 1;binds 1;").mornings(116, 2, 0));
+        // SEED 3: 17747, 7107, 10365: deed 0 to PLACE 1; SEED 5: 18655, 8457, 10616: deed 1 to PLACE 1; SEEDS 10, 4: to PLACE 0.
+        due("SEED 3, a walk", 2, Edges.told(PAIR + Edges.people(2, "plain", 0)).mornings(3, 1, 2));
+        due("SEED 5, a walk", 2, Edges.told(PAIR + Edges.people(2, "plain", 0)).mornings(5, 1, 2));
+        due("SEED 3, no path", 4, Edges.told("place a;place b;" + Edges.people(2, "plain", 0)).mornings(3, 1, 2));
+        due("SEED 10, where one is", 4, Edges.told(PAIR + Edges.people(2, "plain", 0)).mornings(10, 1, 2));
+        due("SEED 4, where one is", 4, Edges.told(PAIR + Edges.people(2, "plain", 0)).mornings(4, 1, 2));
+        // SEED 98: 11754, 22043, 22310: PERSON 0 to PLACE 1; 29921, 16744, 23672, 10519: what is his to PERSON 1, who is not there.
+        due("SEED 98, a gift that can't be", 0, Edges.told(PAIR + Edges.people(2, "plain", 0) + "thing t worth 0 of h;").mornings(98, 2, 0));
+        due("SEED 98, no path, it can", 1, Edges.told("place a;place b;" + Edges.people(2, "plain", 0) + "thing t worth 0 of h;").mornings(98, 2, 0));
         due("a vow that can't be", 0, Edges.told("place a;" + Edges.people(2, "mute", 0)).mornings(0, 1, 0));
         due("with oneself", 0, Edges.told("place a;" + Edges.people(1, "plain", 0)).mornings(0, 1, 0));
         of(42, "then, also without these, the MINUTE");

@@ -159,6 +159,12 @@ public final class DeedEdgesTest {
         due("a slow one in the next", false, x.walk(1, 1));
         due("SMOKE", true, x.minute());
         due("nobody has ACTED", true, x.walk(1, 1));
+        FirstChimney last = Edges.told(SMALL);
+        Edges.minutes(last, 3);
+        due("a slow one in the last minute", true, last.walk(1, 1));
+        due("SMOKE", true, last.minute());
+        due("a slow one after SMOKE is READY", 1, last.person(1, 4));
+        due("a slow one after SMOKE", true, last.walk(1, 1));
         FirstChimney gave = Edges.told(SMALL);
         due("a slow one gives", 0, gave.give(1, 0));
         due("who gave", false, gave.walk(1, 1));
@@ -428,31 +434,31 @@ public final class DeedEdgesTest {
     }
 
     private static void undoneEach() {
-        FirstChimney x = Edges.told(SMALL + "binds clock = 0;");
-        String[] ahead = new String[8];
-        ahead[0] = state(x);
-        due("a gift that BINDS", 1, x.give(0, 2));
-        ahead[1] = state(x);
-        due("a walk", true, x.walk(2, 1));
-        ahead[2] = state(x);
-        due("a minute", false, x.minute());
-        ahead[3] = state(x);
-        due("a vow", 0, x.vow(0, 1));
-        ahead[4] = state(x);
-        due("another minute", false, x.minute());
-        ahead[5] = state(x);
-        due("a slow one's walk", true, x.walk(1, 1));
-        ahead[6] = state(x);
-        due("a third minute", false, x.minute());
-        ahead[7] = state(x);
-        due("SMOKE", true, x.minute());
-        for (int deed = 7; deed >= 0; deed--) {
-            due("undo of deed " + deed, true, x.undo());
-            Edges.due("as ahead of deed " + deed, ahead[deed], state(x));
-            due("deeds left", deed, x.count(12));
+        for (int left = 0; left <= 9; left++) {
+            FirstChimney ahead = Edges.told(SMALL + "binds clock = 0;");
+            deeds(ahead, left);
+            FirstChimney x = Edges.told(SMALL + "binds clock = 0;");
+            deeds(x, 9);
+            for (int deed = 8; deed >= left; deed--) {
+                due("undo of deed " + deed, true, x.undo());
+                due("deeds left", deed, x.count(12));
+            }
+            Edges.due("as ahead of deed " + left, Edges.view(ahead), Edges.view(x));
         }
-        due("no more", false, x.undo());
-        Edges.due("as ahead of all", ahead[0], state(x));
+    }
+
+    /** The first so many of nine deeds, one of each kind among them. */
+    private static void deeds(FirstChimney x, int number) {
+        for (int deed = 0; deed < number; deed++) {
+            switch (deed) {
+                case 0: due("a walk", true, x.walk(2, 1)); break;
+                case 1: due("a vow that BINDS", 1, x.vow(1, 0)); break;
+                case 3: due("a gift", 0, x.give(0, 1)); break;
+                case 5: due("a slow one's walk", true, x.walk(1, 1)); break;
+                case 8: due("a gift that BINDS", 1, x.give(1, 2)); break;
+                default: due("SMOKE by deed " + deed, deed == 7, x.minute());
+            }
+        }
     }
 
     /** How all is, without the number of what can be undone. */
@@ -505,6 +511,17 @@ public final class DeedEdgesTest {
         due("all can be", NONE, y.judged(0));
         due("told", 0, Edges.morning(y, "walk h b;minute;vow i j;"));
         due("none", NONE, y.judged(1));
+        due("told", 0, Edges.morning(y, "vow i j;minute;vow i j;vow j k;"));
+        due("vowed already", 2, y.judged(0));
+        due("a vow that does not BIND can be", NONE, y.judged(1));
+        due("told", 0, Edges.morning(y, "vow i j;vow h l;give m i;vow k l;"));
+        due("those who vowed have ACTED", 2, y.judged(0));
+        due("told", 0, Edges.morning(y, "vow i j;vow h l;minute;walk i b;minute;walk i a;"));
+        due("all can be", NONE, y.judged(0));
+        due("told", 0, Edges.morning(y, "walk i b;vow i h;minute;vow i h;walk i b;"));
+        due("who WALKED has ACTED", 1, y.judged(0));
+        due("told", 0, Edges.morning(y, "walk i b;minute;vow i h;"));
+        due("who WALKED is not there", 2, y.judged(0));
         of(13, "how many THINGS are with others at last than at the begin.");
         String six = "give m i;minute;give n i;minute;give o i;minute;give p i;minute;give q i;minute;give r i;";
         due("told", 0, Edges.morning(y, six));
@@ -597,6 +614,22 @@ public final class DeedEdgesTest {
         due("back to one SEEN", true, few.mark(1, true));
         due("one SEEN", 1, few.count(11));
         due("laid is not undone", false, few.undo());
+        FirstChimney other = Edges.told(SMALL);
+        other.mark(3, false);
+        // At b: h by 1, i by 2, j by 1, k by 3.
+        other.see(1, 1, false);
+        other.see(1, 2, true);
+        other.mark(0, false);
+        due("by what is SEEN", 2, other.who());
+        due("back to nothing SEEN", true, other.mark(3, true));
+        other.see(0, 0, true);
+        other.see(2, 99, false);
+        other.mark(1, false);
+        due("by other SEEN", 15, other.who());
+        due("back to the first", true, other.mark(0, true));
+        due("by what was SEEN", 2, other.who());
+        due("back to the other", true, other.mark(1, true));
+        due("by what was SEEN then", 15, other.who());
     }
 
     private static void counts() {

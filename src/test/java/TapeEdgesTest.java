@@ -201,6 +201,8 @@ public final class TapeEdgesTest {
         due("8 letters", 3, Edges.told("place abcdefgh;place zyxwvuts;place z;").count(0));
         due("told apart by the eighth", 2, Edges.told("place aaaaaaaa;place aaaaaaab;").count(0));
         due("told apart by the length", 3, Edges.told("place aaaaaaa;place aaaaaaaa;place aaaaaa;").count(0));
+        due("told apart by the order of letters", 7, Edges.told("place a;place aa;place ab;place ba;place b;place bb;place aab;").count(0));
+        due("told apart by the first letter", 3, Edges.told("place abbbbbbb;place bbbbbbbb;place zbbbbbbb;").count(0));
         landFault(3, "place aaaaaaaa;place ^aaaaaaaa;");
         landFault(1, "place ^abcdefghi;");
         landFault(1, "place ^" + Edges.repeated("a", 900) + ";");
@@ -536,6 +538,10 @@ public final class TapeEdgesTest {
         FirstChimney apart = Edges.told("place a;place b;person h bench in a wakes 0;person i bench in a wakes 0;person j bench in b wakes 0;"
                 + "person k bench in a wakes 0;binds crowd = 1 and judge = 1;");
         due("one at another PLACE is not of the crowd", 1, apart.vow(0, 1));
+        for (int left = 0; left < 3; left++) {
+            FirstChimney third = Edges.told("place a;" + Edges.people(3, "bench", 0) + "binds judge = 1 and crowd = 1;");
+            due("each may be the third one", 1, third.vow((left + 1) % 3, (left + 2) % 3));
+        }
         of(3, "Without binds: 0.");
         FirstChimney none = Edges.told("place a;" + Edges.people(4, "bench", 0) + "thing t worth 30 of h;");
         due("would", false, none.would(0, 1));
@@ -546,6 +552,8 @@ public final class TapeEdgesTest {
         due("told", true, before.would(0, 1));
         due("without", 0, Edges.land(before, "place a;" + Edges.people(2, "plain", 0) + "thing t worth 1 of h;"));
         due("a law is not left over", false, before.would(0, 1));
+        due("without once more", 0, Edges.land(before, "place a;" + Edges.people(2, "plain", 0) + "thing t worth 1 of h;"));
+        due("not from the one ahead of that, too", false, before.would(0, 1));
     }
 
     private static void faults() {
@@ -561,6 +569,14 @@ public final class TapeEdgesTest {
         landFault(1, "place" + Edges.repeated(" ", 995) + "^");
         landFault(1, Edges.repeated(" ", 995) + "place^");
         landFault(1, "^" + Edges.repeated("a", 1000));
+        landFault(1, Edges.repeated(" ", 993) + "smoke 3^");
+        landFault(1, Edges.repeated(" ", 991) + "binds (1)^");
+        FirstChimney shorter = new FirstChimney();
+        due("a longer text", 1 + 16 * 6, Edges.land(shorter, "smoke 34567;"));
+        due("a shorter one ends at its length", 1 + 16 * 7, Edges.land(shorter, "smoke 3"));
+        due("a longer WORD", 2 + 16 * 5, Edges.land(shorter, "path abcdefgh;"));
+        due("a shorter one ends at its length, too", 1 + 16 * 6, Edges.land(shorter, "place "));
+        due("and its NAME", 1 + 16 * 7, Edges.land(shorter, "place a"));
         due("999 blanks and a ;", 1 + 16 * 999, Edges.land(new FirstChimney(), Edges.repeated(" ", 999) + ";"));
         due("as long as the TAPE", 0, Edges.land(new FirstChimney(), Edges.repeated(" ", 992) + "place a;"));
         due("one sign longer", 1 + 16 * 1000, Edges.land(new FirstChimney(), Edges.repeated(" ", 993) + "place a;"));
@@ -592,7 +608,20 @@ public final class TapeEdgesTest {
             landFault(1, "place a;person h plain in a wakes 0;thing t worth 0 ^" + token);
             landFault(1, "smoke ^" + (token.equals("1") ? "tea" : token));
         }
+        landFault(1, "place^;");
+        landFault(1, "path^;");
+        landFault(1, "person^;");
+        landFault(1, "thing^;");
         landFault(1, "place a;person h ^;");
+        landFault(1, "place a;person h plain^;");
+        landFault(1, "place a;person h plain in^;");
+        landFault(1, "place a;person h plain in a^;");
+        landFault(1, "place a;person h plain in a wakes^;");
+        landFault(1, "place a;person h plain in a wakes 0;thing t^;");
+        landFault(1, "place a;person h plain in a wakes 0;thing t worth^;");
+        landFault(1, "place a;person h plain in a wakes 0;thing t worth 0^;");
+        landFault(1, "place a;person h plain in a wakes 0;thing t worth 0 of^;");
+        landFault(1, "place a;place b;path a^;");
         landFault(1, "place a;person h plain^");
         landFault(1, "place a;person h plain in^");
         landFault(1, "place a;person h plain in a^");
@@ -625,6 +654,7 @@ public final class TapeEdgesTest {
         due("REACH stays", 127, ways.reach(6));
         due("binds stays", false, ways.would(1, 1));
         due("binds stays, too", true, ways.would(4, 0));
+        leftOver();
         of(3, "Without a FAULT a LAND is the LAND from then on: morning 0, minute 0, all in their HOUSES, THINGS with those whose they are told to be, by right, too, no vows, each has HEARD of themselves, no MORNING, nothing SEEN, nothing can be undone, no MARK is there.");
         FirstChimney again = Edges.told("place a;place b;path a b;" + Edges.people(5, "bench", 0) + "thing t worth 1 of h;smoke 2;binds 1;");
         Edges.minutes(again, 3);
@@ -633,6 +663,7 @@ public final class TapeEdgesTest {
         due("a walk", true, again.walk(3, 1));
         Edges.minutes(again, 2);
         due("a walk again", true, again.walk(3, 1));
+        due("all have ACTED", 1, again.vow(0, 1) * again.vow(2, 4));
         due("SEEN", true, again.see(0, 0, true));
         for (int mark = 0; mark <= 3; mark++) {
             due("a MARK", true, again.mark(mark, false));
@@ -654,6 +685,39 @@ public final class TapeEdgesTest {
         due("one PLACE", NONE, again.place(1, 0));
         due("nobody", 0, again.who());
         due("no lines", 0, again.count(10));
+    }
+
+    /** What a LAND or a FAULT told ahead is not in the next one nor in the one behind that. */
+    private static void leftOver() {
+        of(3, "Without a FAULT a LAND is the LAND from then on");
+        String two = "place a;" + Edges.people(2, "plain", 0) + "thing t worth 1 of h;binds ";
+        for (String law : "1;not 1;(1);((((1))));not not not 1 + 1;0 or 1 = 1 - 1 * (2;(((((;not not not not not;1 and (1 = 1 = 1;(1 +".split(";")) {
+            for (int ahead = 1; ahead <= 3; ahead++) {
+                FirstChimney x = new FirstChimney();
+                for (int i = 0; i < ahead; i++) {
+                    Edges.land(x, two + law + ";");
+                }
+                due("behind " + law, 0, Edges.land(x, two + "1;"));
+                due("binds 1 behind " + law, true, x.would(0, 1));
+                due("behind binds 1", 0, Edges.land(x, two + "not not not not 0;"));
+                due("binds not not not not 0", false, x.would(0, 1));
+                due("behind that", 0, Edges.land(x, two + "((((1)))) and 2 = 1 + 1 * 1;"));
+                due("binds ((((1)))) and 2 = 1 + 1 * 1", true, x.would(0, 1));
+                due("behind all", 0, Edges.land(x, two + "1;"));
+                due("binds 1 again", true, x.would(0, 1));
+            }
+        }
+        FirstChimney x = new FirstChimney();
+        for (int i = 0; i < 4; i++) {
+            due("FULL " + i, 0, Edges.land(x, Edges.FULL));
+            due("paths " + i, 10, x.count(1));
+            due("a FAULT " + i, 5 + 16 * (SEVEN + TEN).length(), Edges.land(x, SEVEN + TEN + "path a b;"));
+            due("a pair " + i, 0, Edges.land(x, "place a;place b;path a b;"));
+            due("paths of the pair " + i, 1, x.count(1));
+            due("PERSONS of the pair " + i, 0, x.count(2) + x.count(3));
+            due("smoke of the pair " + i, 30, x.count(4));
+            due("REACH of the pair " + i, 3, x.reach(0));
+        }
     }
 
     private static void mornings() {
