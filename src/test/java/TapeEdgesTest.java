@@ -691,7 +691,7 @@ public final class TapeEdgesTest {
     private static void leftOver() {
         of(3, "Without a FAULT a LAND is the LAND from then on");
         String two = "place a;" + Edges.people(2, "plain", 0) + "thing t worth 1 of h;binds ";
-        for (String law : "1;not 1;(1);((((1))));not not not 1 + 1;0 or 1 = 1 - 1 * (2;(((((;not not not not not;1 and (1 = 1 = 1;(1 +".split(";")) {
+        for (String law : "1;not 1;1 = 1;(1);((((1))));not not not 1 + 1;0 or 1 = 1 - 1 * (2;(((((;not not not not not;1 and (1 = 1 = 1;(1 +".split(";")) {
             for (int ahead = 1; ahead <= 3; ahead++) {
                 FirstChimney x = new FirstChimney();
                 for (int i = 0; i < ahead; i++) {
@@ -703,8 +703,8 @@ public final class TapeEdgesTest {
                 due("binds not not not not 0", false, x.would(0, 1));
                 due("behind that", 0, Edges.land(x, two + "((((1)))) and 2 = 1 + 1 * 1;"));
                 due("binds ((((1)))) and 2 = 1 + 1 * 1", true, x.would(0, 1));
-                due("behind all", 0, Edges.land(x, two + "1;"));
-                due("binds 1 again", true, x.would(0, 1));
+                due("behind all", 0, Edges.land(x, two + "2 = 1 + 1;"));
+                due("binds 2 = 1 + 1", true, x.would(0, 1));
             }
         }
         FirstChimney x = new FirstChimney();
